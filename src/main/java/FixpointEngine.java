@@ -23,6 +23,11 @@ public final class FixpointEngine {
     private static final int MOST_ROUNDS = 30;
     private static final int MOST_ROWS = 48;
 
+    private static final long LEAST_INT = -(1L << 31);
+    private static final long GREATEST_INT = (1L << 31) - 1;
+    /** Where NULL is sorted: before all ints. */
+    private static final long BEFORE_ALL = LEAST_INT - 1;
+
     /** Every row is laid out in four cells: an answer has up to four items, a part three columns and its MARK. */
     private static final int STRIDE = 4;
     private static final int MARK = 3;
@@ -1094,7 +1099,7 @@ public final class FixpointEngine {
         }
 
         static int compareCells(long x, long y) {
-            return Long.compare(x == NULL ? Long.MIN_VALUE : x, y == NULL ? Long.MIN_VALUE : y);
+            return Long.compare(x == NULL ? BEFORE_ALL : x, y == NULL ? BEFORE_ALL : y);
         }
     }
 
@@ -1283,7 +1288,7 @@ public final class FixpointEngine {
         }
 
         static boolean isOutOfRange(long value) {
-            return value != NULL && (value < Integer.MIN_VALUE || value > Integer.MAX_VALUE);
+            return value != NULL && (value < LEAST_INT || value > GREATEST_INT);
         }
 
         void takeCombination() {

@@ -55,7 +55,7 @@ final class Kit {
         }
     }
 
-    /** The fault of a text is due at the mark ^, which is no part of it; without a mark there is none due. */
+    /** The fault of a text is due at the mark ^, which is no part of it. */
     static void dueFault(FixpointEngine engine, int number, String marked) {
         int place = marked.indexOf('^');
         String text = marked.replace("^", "");
