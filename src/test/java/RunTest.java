@@ -120,6 +120,8 @@ final class RunTest {
         due("WITH p(x,y) AS (SELECT 1,2 UNION SELECT 1,3 UNION SELECT 2,3) SELECT f.y,f.x FROM p f", "2 1; 3 1; 3 2");
         due("WITH p(x) AS (SELECT 1), q(x) AS (SELECT f.x+1 FROM p f) SELECT f.x,g.x FROM p f,q g", "1 2");
         due("WITH RECURSIVE p(x) AS (SELECT f.x+1 FROM q f), q(x) AS (SELECT 4) SELECT f.x FROM p f", "5");
+        due("WITH p(x) AS (SELECT 1), q(x) AS (SELECT 2), r(x) AS (SELECT 3), s(x) AS (SELECT f.x+1 FROM r f)"
+                + " SELECT f.x,g.x FROM p f,s g", "1 4");
         due("WITH t1(a) AS (SELECT f.a FROM t0 f) SELECT f.a FROM t1 f", "1; 1; 2; 3");
     }
 
@@ -163,6 +165,28 @@ final class RunTest {
         dueRun("SELECT COUNT(*) FROM t0 f,t1 g,t2 h", 1, "48");
         dueRun("SELECT f.a FROM t0 f,t1 g,t2 h", 48, "1; ".repeat(24) + "2; ".repeat(12) + "3; ".repeat(11) + "3");
         dueRun("WITH p(x) AS (SELECT 1) SELECT f.a FROM t0 f,t1 g,t2 h", 48, rows);
+        manyGroups();
+    }
+
+    private static void manyGroups() {
+        FixpointEngine e = new FixpointEngine();
+        e.table(1);
+        e.table(1);
+        for (int i = 0; i < 16; i++) {
+            e.row(0, i, 0, 0, 0);
+        }
+        StringBuilder answer = new StringBuilder();
+        for (int i = 0; i < 48; i++) {
+            answer.append(i == 0 ? "" : "; ").append(i).append(" 1 ").append(i).append(" ").append(i);
+        }
+        e.row(1, 0, 0, 0, 0);
+        e.row(1, 16, 0, 0, 0);
+        e.row(1, 32, 0, 0, 0);
+        String text = "SELECT f.a+g.a,COUNT(*),SUM(f.a+g.a),MAX(f.a+g.a) FROM t0 f,t1 g";
+        Kit.dueRun(e, text, 1, 48, answer.toString());
+        Kit.dueRun(e, text, 1, 47, "UnsupportedOperationException");
+        e.row(1, 48, 0, 0, 0);
+        Kit.dueRun(e, text, 1, 48, "UnsupportedOperationException");
     }
 
     private static void firstError() {
@@ -188,5 +212,7 @@ final class RunTest {
         // What an error left behind does not touch the next run.
         Kit.dueRun(late, "SELECT COUNT(*),MAX(f.a+1) FROM t0 f", 30, 3, arithmetic);
         Kit.dueRun(late, "SELECT COUNT(*) FROM t0 f", 30, 3, "3");
+        Kit.dueRun(late, "SELECT f.a,SUM(f.a+1) FROM t0 f", 30, 3, arithmetic);
+        Kit.dueRun(late, "SELECT f.a,SUM(f.a) FROM t0 f WHERE f.a<3", 30, 3, "1 1; 2 2");
     }
 }

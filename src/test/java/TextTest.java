@@ -76,6 +76,10 @@ final class TextTest {
         Kit.dueFine(e, 0, "SELECT 1 WHERE 1 <> 2");
         Kit.dueFault(e, 1, "SELECT 1 WHERE 1 <>^> 2");
         Kit.dueFault(e, 1, "SELECT 1 WHERE 1 <^= 2");
+        Kit.dueFault(e, 1, "SELECT 1 WHERE 1<>^");
+        Kit.dueFault(e, 1, "SELECT 1 WHERE 1<^");
+        Kit.dueFault(e, 1, "SELECT 1 WHERE 1" + " ".repeat(383) + "<^");
+        Kit.dueFault(e, 1, "^SELECTZ 1");
         Kit.dueFault(e, 1, "SELECT ^_");
         Kit.dueFault(e, 1, "SELECT 1^;");
         Kit.dueFault(e, 1, "SELECT ^ISNULL");
