@@ -62,6 +62,11 @@ final class Kit {
         due(marked, prepare(engine, text), "fault " + (number + 10 * place));
     }
 
+    /** As dueFault, for a text that may have the mark itself among its characters. */
+    static void dueFaultAt(FixpointEngine engine, int number, int place, String text) {
+        due(text, prepare(engine, text), "fault " + (number + 10 * place));
+    }
+
     static void dueFine(FixpointEngine engine, int parts, String text) {
         due(text, prepare(engine, text), parts);
         due("no fault of " + text, engine.fault(), 0);
@@ -118,6 +123,35 @@ final class Kit {
             told.append(" ").append(engine.rounds(component, r));
         }
         return told.toString();
+    }
+
+    /** A new object with these tables, each of at least one row. */
+    static FixpointEngine engine(Integer[][]... tables) {
+        FixpointEngine engine = new FixpointEngine();
+        for (Integer[][] rows : tables) {
+            table(engine, rows);
+        }
+        return engine;
+    }
+
+    /** A new object with tables of these numbers of columns, without rows. */
+    static FixpointEngine columns(int... columns) {
+        FixpointEngine engine = new FixpointEngine();
+        for (int count : columns) {
+            engine.table(count);
+        }
+        return engine;
+    }
+
+    static void dueNoAnswer(String what, FixpointEngine engine) {
+        dueThrown(what + ": no cell", () -> engine.cell(0, 0), IndexOutOfBoundsException.class);
+        dueThrown(what + ": no size", () -> engine.size(0), IndexOutOfBoundsException.class);
+        dueThrown(what + ": no rounds", () -> engine.rounds(0, 0), IndexOutOfBoundsException.class);
+    }
+
+    static void dueNoQuery(String what, FixpointEngine engine) {
+        dueThrown(what + ": no part", () -> engine.part(0, 0), java.util.NoSuchElementException.class);
+        dueThrown(what + ": no run", () -> engine.run(1, 1), IllegalStateException.class);
     }
 
     /** A new table with these rows of one width; null is NULL. */
