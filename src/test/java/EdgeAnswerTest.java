@@ -57,7 +57,8 @@ final class EdgeAnswerTest {
     /** "Reads the text as a query ..: how many parts it has; it is the query then." */
     private static void howManyParts() {
         FixpointEngine e = new FixpointEngine();
-        String[] texts = {"SELECT 1", "WITH " + one("p") + " SELECT 1", "WITH " + one("p") + "," + one("q") + " SELECT 1",
+        String[] texts = {"SELECT 1", "WITH " + one("p") + " SELECT 1",
+                "WITH " + one("p") + "," + one("q") + " SELECT 1",
             "WITH " + one("p") + "," + one("q") + "," + one("r") + " SELECT 1",
             "WITH " + one("p") + "," + one("q") + "," + one("r") + "," + one("s") + " SELECT 1"};
         for (int parts = 0; parts <= 4; parts++) {
@@ -99,7 +100,8 @@ final class EdgeAnswerTest {
         for (int what : new int[] {-1, 3, 4, LEAST, MOST}) {
             for (int k = 0; k < 2; k++) {
                 int part = k;
-                Kit.dueThrown("part(" + part + ", " + what + ")", () -> e.part(part, what), IllegalArgumentException.class);
+                Kit.dueThrown("part(" + part + ", " + what + ")", () -> e.part(part, what),
+                        IllegalArgumentException.class);
             }
         }
         Kit.due("what 0, 1, 2", e.part(1, 0) + " " + e.part(1, 1) + " " + e.part(1, 2), "1 0 1");
@@ -110,18 +112,19 @@ final class EdgeAnswerTest {
     private static void columnsOfAPart() {
         String[] names = {"x", "x,y", "x,y,z"};
         String[] items = {"1", "1,2", "1,2,3"};
-        String[] tails = {"", " SEARCH DEPTH FIRST BY x SET k", " CYCLE x SET m", " SEARCH BREADTH FIRST BY x SET k CYCLE x SET m"};
+        String[] tails = {"", " SEARCH DEPTH FIRST BY x SET k", " CYCLE x SET m",
+                " SEARCH BREADTH FIRST BY x SET k CYCLE x SET m"};
         for (int i = 0; i < 3; i++) {
             for (int tail = 0; tail < 4; tail++) {
                 FixpointEngine e = new FixpointEngine();
-                Kit.dueFine(e, 1, "WITH RECURSIVE p(" + names[i] + ") AS (SELECT " + items[i] + " UNION SELECT " + items[i]
-                        + " FROM p r)" + tails[tail] + " SELECT 1");
+                Kit.dueFine(e, 1, "WITH RECURSIVE p(" + names[i] + ") AS (SELECT " + items[i] + " UNION SELECT "
+                        + items[i] + " FROM p r)" + tails[tail] + " SELECT 1");
                 Kit.due(names[i] + tails[tail], e.part(0, 2), i + 1 + tail / 2);
             }
         }
     }
 
-    /** "Parts that need one another, in one or more steps, are one COMPONENT; a part that needs itself so is RECURSIVE". */
+    /** "Parts that need one another .. are one COMPONENT; a part that needs itself so is RECURSIVE". */
     private static void recursiveInOneOrMoreSteps() {
         String step = "(x) AS (SELECT 1 UNION SELECT f.x FROM # f)";
         String p = "p" + step;
@@ -133,21 +136,26 @@ final class EdgeAnswerTest {
         dueParts(p.replace("#", "t0").replace("f.x", "f.a"), "0");
         dueParts(p.replace('#', 'q') + "," + q.replace('#', 'p'), "0r 0r");
         dueParts(p.replace('#', 'q') + "," + q.replace('#', 'r') + "," + r.replace('#', 'p'), "0r 0r 0r");
-        dueParts(p.replace('#', 'q') + "," + q.replace('#', 'r') + "," + r.replace('#', 's') + "," + s.replace('#', 'p'),
+        dueParts(p.replace('#', 'q') + "," + q.replace('#', 'r') + "," + r.replace('#', 's') + ","
+                + s.replace('#', 'p'),
                 "0r 0r 0r 0r");
-        dueParts(p.replace('#', 's') + "," + q.replace('#', 'p') + "," + r.replace('#', 'q') + "," + s.replace('#', 'r'),
+        dueParts(p.replace('#', 's') + "," + q.replace('#', 'p') + "," + r.replace('#', 'q') + ","
+                + s.replace('#', 'r'),
                 "0r 0r 0r 0r");
-        dueParts(p.replace('#', 'r') + "," + q.replace('#', 's') + "," + r.replace('#', 'p') + "," + s.replace('#', 'q'),
+        dueParts(p.replace('#', 'r') + "," + q.replace('#', 's') + "," + r.replace('#', 'p') + ","
+                + s.replace('#', 'q'),
                 "0r 1r 0r 1r");
         // A part that needs a recursive one, or is needed by it, is none by that.
         dueParts(p.replace('#', 'p') + "," + q.replace('#', 'p') + "," + r.replace('#', 'q'), "0r 1 2");
-        dueParts(p.replace('#', 'q') + "," + q.replace('#', 'q') + "," + r.replace('#', 's') + "," + one("s"), "1 0r 3 2");
+        dueParts(p.replace('#', 'q') + "," + q.replace('#', 'q') + "," + r.replace('#', 's') + "," + one("s"),
+                "1 0r 3 2");
         dueParts(p.replace('#', 'p') + "," + q.replace('#', 'q'), "0r 1r");
         // NOT EXISTS needs, too.
         dueParts("p(x) AS (SELECT 1 WHERE NOT EXISTS(SELECT 1 FROM q f))," + one("q"), "1 0");
         // The query's own selection makes no need.
         FixpointEngine e = new FixpointEngine();
-        Kit.dueFine(e, 2, "WITH " + one("p") + "," + one("q") + " SELECT 1 FROM q f,q g WHERE NOT EXISTS(SELECT 1 FROM q h)");
+        Kit.dueFine(e, 2, "WITH " + one("p") + "," + one("q") + " SELECT 1 FROM q f,q g WHERE NOT EXISTS(SELECT 1"
+                + " FROM q h)");
         Kit.due("p first", e.part(0, 0) + " " + e.part(1, 0), "0 1");
     }
 
@@ -174,13 +182,14 @@ final class EdgeAnswerTest {
         dueParts(p + "," + one("q") + "," + one("r") + "," + s, "0r 1 2 0r");
         dueParts(p + "," + one("q") + "," + one("r") + "," + s.replace("p f", "p f,r g"), "2r 0 1 2r");
         dueParts(p + "," + one("q") + "," + one("r") + "," + s.replace("p f", "p f,q g"), "1r 0 2 1r");
-        dueParts(one("q") + "," + s.replace("p f", "p f,q g") + "," + p + ",r(x) AS (SELECT f.x FROM s f)", "0 1r 1r 2");
+        dueParts(one("q") + "," + s.replace("p f", "p f,q g") + "," + p + ",r(x) AS (SELECT f.x FROM s f)",
+                "0 1r 1r 2");
     }
 
     private static FixpointEngine answered() {
         FixpointEngine e = Kit.engine(new Integer[][] {{5}, {null}, {7}});
-        Kit.dueFine(e, 2, "WITH RECURSIVE p(x) AS (SELECT 1 UNION SELECT r.x+1 FROM p r WHERE r.x<3),q(x) AS (SELECT f.a FROM"
-                + " t0 f) SELECT f.x,g.x,9 FROM p f,q g WHERE f.x<3");
+        Kit.dueFine(e, 2, "WITH RECURSIVE p(x) AS (SELECT 1 UNION SELECT r.x+1 FROM p r WHERE r.x<3),q(x) AS"
+                + " (SELECT f.a FROM t0 f) SELECT f.x,g.x,9 FROM p f,q g WHERE f.x<3");
         Kit.due("six rows", Kit.run(e, 4, 12), "1 NULL 9; 1 5 9; 1 7 9; 2 NULL 9; 2 5 9; 2 7 9");
         return e;
     }
@@ -237,8 +246,8 @@ final class EdgeAnswerTest {
         for (int k : new int[] {-1, 2, 3, 4, 5, LEAST, MOST}) {
             dueOut("size(" + k + ")", () -> e.size(k));
         }
-        Kit.dueAnswer(e, "WITH " + one("p") + "," + one("q") + "," + one("r") + ",s(x) AS (SELECT 1 UNION ALL SELECT 1) SELECT"
-                + " 1 WHERE 1=2", "");
+        Kit.dueAnswer(e, "WITH " + one("p") + "," + one("q") + "," + one("r")
+                + ",s(x) AS (SELECT 1 UNION ALL SELECT 1) SELECT 1 WHERE 1=2", "");
         Kit.due("the fourth", e.size(3), 2);
         dueOut("no fifth", () -> e.size(4));
         Kit.dueAnswer(e, "SELECT 1", "1");
@@ -255,8 +264,8 @@ final class EdgeAnswerTest {
             }
         }
         // Four parts, but three components.
-        Kit.dueAnswer(e, "WITH RECURSIVE p(x) AS (SELECT 1 UNION SELECT f.x FROM q f),q(x) AS (SELECT 2 UNION SELECT f.x FROM p"
-                + " f)," + one("r") + "," + one("s") + " SELECT 1", "1");
+        Kit.dueAnswer(e, "WITH RECURSIVE p(x) AS (SELECT 1 UNION SELECT f.x FROM q f),q(x) AS (SELECT 2 UNION"
+                + " SELECT f.x FROM p f)," + one("r") + "," + one("s") + " SELECT 1", "1");
         Kit.due("the pair", Kit.rounds(e, 0), "3: 2 2 0");
         Kit.due("the last component", Kit.rounds(e, 2), "1: 1");
         dueOut("no fourth component", () -> e.rounds(3, 0));
@@ -338,7 +347,8 @@ final class EdgeAnswerTest {
         Kit.dueAnswer(Kit.engine(rows), "SELECT f.a FROM t0 f ORDER BY f.a", due);
         Kit.dueAnswer(Kit.engine(rows), "SELECT 1,f.a FROM t0 f", "1 " + due.replace("; ", "; 1 "));
         Kit.dueAnswer(Kit.engine(new Integer[][] {{LEAST, 1}, {null, 2}}), "SELECT f.b FROM t0 f ORDER BY f.a", "2; 1");
-        Kit.dueAnswer(Kit.engine(new Integer[][] {{null, 1}, {LEAST, 2}}), "SELECT 0-f.b FROM t0 f ORDER BY f.a", "-1; -2");
+        Kit.dueAnswer(Kit.engine(new Integer[][] {{null, 1}, {LEAST, 2}}), "SELECT 0-f.b FROM t0 f ORDER BY f.a",
+                "-1; -2");
     }
 
     /** "then by the items from the left". */
@@ -402,7 +412,8 @@ final class EdgeAnswerTest {
     private static void manyCalls() {
         FixpointEngine e = Kit.columns(1);
         e.row(0, 3, 0, 0, 0);
-        String text = "WITH RECURSIVE p(x) AS (SELECT f.a FROM t0 f UNION SELECT r.x+1 FROM p r WHERE r.x<9) SELECT f.x FROM p f";
+        String text = "WITH RECURSIVE p(x) AS (SELECT f.a FROM t0 f UNION SELECT r.x+1 FROM p r WHERE r.x<9)"
+                + " SELECT f.x FROM p f";
         int calls = 2;
         while (calls + 9 <= 512) {
             Kit.feed(e, text);

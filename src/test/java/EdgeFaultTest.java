@@ -239,7 +239,8 @@ final class EdgeFaultTest {
     /** "the name behind CYCLE's SET is one more, its MARK". */
     private static void markIsAColumn() {
         String part = LOOP + "CYCLE x SET m ";
-        fine(1, part + "SELECT f.m,1+f.m FROM p f WHERE f.m=0 AND NOT EXISTS(SELECT 1 FROM p g WHERE g.m=1) ORDER BY f.m");
+        fine(1, part + "SELECT f.m,1+f.m FROM p f WHERE f.m=0 AND NOT EXISTS(SELECT 1 FROM p g WHERE g.m=1) ORDER"
+                + " BY f.m");
         fine(1, part + "SELECT SUM(f.m) FROM p f");
         fine(2, part.trim() + ",q(x) AS (SELECT f.m FROM p f) SELECT 1");
         fine(1, part.replace("SELECT r.x", "SELECT r.m") + "SELECT 1");
@@ -298,13 +299,15 @@ final class EdgeFaultTest {
                     fault(3, begin + "SELECT " + items[width] + " UNION ^SELECT " + items[count] + " UNION SELECT "
                             + items[width] + ") SELECT 1");
                     fault(3, begin + "SELECT " + items[width] + " UNION ALL SELECT " + items[width]
-                            + " UNION ALL SELECT " + items[width] + " UNION ALL ^SELECT " + items[count] + ") SELECT 1");
+                            + " UNION ALL SELECT " + items[width] + " UNION ALL ^SELECT " + items[count]
+                            + ") SELECT 1");
                 }
             }
         }
         // MARK and TRAIL are not in the ( ), and the query's own selection belongs to no part.
         fault(3, "WITH RECURSIVE p(x) AS (SELECT 1 UNION ^SELECT r.x,r.m FROM p r) CYCLE x SET m SELECT 1");
-        fault(3, "WITH RECURSIVE p(x) AS (^SELECT 1,2 UNION SELECT r.x FROM p r) SEARCH DEPTH FIRST BY x SET k SELECT 1");
+        fault(3, "WITH RECURSIVE p(x) AS (^SELECT 1,2 UNION SELECT r.x FROM p r) SEARCH DEPTH FIRST BY x SET k"
+                + " SELECT 1");
         fine(1, "WITH p(x) AS (SELECT 1) SELECT 1,2,3,4");
     }
 
@@ -333,12 +336,12 @@ final class EdgeFaultTest {
             fault(5, "WITH RECURSIVE p(x) AS (SELECT 1 UNION SELECT " + gather + " FROM ^p f,p g) SELECT 1");
             fault(5, "WITH RECURSIVE p(x) AS (SELECT 1 UNION SELECT " + gather.replace("f.x", "g.x")
                     + " FROM t0 f,^p g) SELECT 1");
-            fault(5, "WITH RECURSIVE p(x) AS (SELECT 1 UNION SELECT f.x FROM q f),q(x) AS (SELECT 2 UNION SELECT " + gather
-                    + " FROM ^p f) SELECT 1");
+            fault(5, "WITH RECURSIVE p(x) AS (SELECT 1 UNION SELECT f.x FROM q f),q(x) AS (SELECT 2 UNION SELECT "
+                    + gather + " FROM ^p f) SELECT 1");
             fault(5, "WITH RECURSIVE p(x) AS (SELECT " + gather + " FROM ^p f) SELECT 1");
             // Another component may be named, and so may the own one by a selection without them.
-            fine(2, "WITH RECURSIVE q(x) AS (SELECT 1),p(x) AS (SELECT " + gather + " FROM q f UNION SELECT f.x FROM p f)"
-                    + " SELECT 1");
+            fine(2, "WITH RECURSIVE q(x) AS (SELECT 1),p(x) AS (SELECT " + gather
+                    + " FROM q f UNION SELECT f.x FROM p f) SELECT 1");
             fine(2, "WITH RECURSIVE p(x) AS (SELECT 1 UNION SELECT f.x FROM p f),q(x) AS (SELECT " + gather
                     + " FROM p f) SELECT 1");
             fine(1, "WITH RECURSIVE p(x) AS (SELECT 1 UNION SELECT f.x FROM p f) SELECT " + gather + " FROM p f");
@@ -397,7 +400,8 @@ final class EdgeFaultTest {
 
     /** "7 LINEAR: .. or one of its selections names it twice." */
     private static void linearTwice() {
-        String once = "p(x) AS (SELECT 1 UNION SELECT f.x FROM p f UNION SELECT f.x FROM t0 g,p f UNION SELECT f.x FROM p f)";
+        String once = "p(x) AS (SELECT 1 UNION SELECT f.x FROM p f UNION SELECT f.x FROM t0 g,p f UNION SELECT f.x"
+                + " FROM p f)";
         String twice = "p(x) AS (SELECT 1 UNION SELECT f.x FROM p f UNION SELECT f.x FROM p f,p g)";
         String thrice = "p(x) AS (SELECT 1 UNION SELECT f.x FROM p f,p g,p h)";
         String[] tails = {" SEARCH DEPTH FIRST BY x SET k", " SEARCH BREADTH FIRST BY x SET k", " CYCLE x SET m"};
@@ -408,7 +412,8 @@ final class EdgeFaultTest {
         }
         fine(1, "WITH RECURSIVE " + once.replace("UNION", "UNION ALL") + " SELECT 1");
         fault(7, "WITH RECURSIVE ^" + twice.replace("UNION", "UNION ALL") + " SELECT 1");
-        fault(7, "WITH RECURSIVE ^" + twice.replace("p f,p g", "p f,t0 h,p g").replace("UNION", "UNION ALL") + " SELECT 1");
+        fault(7, "WITH RECURSIVE ^" + twice.replace("p f,p g", "p f,t0 h,p g").replace("UNION", "UNION ALL")
+                + " SELECT 1");
         fine(1, "WITH RECURSIVE " + twice + " SELECT 1");
         fine(1, "WITH RECURSIVE " + thrice + " SELECT 1");
         // One that is not recursive may name another twice.

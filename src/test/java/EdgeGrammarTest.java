@@ -109,7 +109,8 @@ final class EdgeGrammarTest {
             String text = marked.replace("|", "");
             for (int at = 0; at < text.length(); at = tokenEnd(text, at)) {
                 for (String odd : new String[] {"X", "abcdefg", "12345", "?"}) {
-                    Kit.dueFaultAt(Kit.columns(1), 1, at + 1, text.substring(0, at) + " " + odd + " " + text.substring(at));
+                    Kit.dueFaultAt(Kit.columns(1), 1, at + 1, text.substring(0, at) + " " + odd + " "
+                            + text.substring(at));
                 }
             }
             Kit.dueFaultAt(Kit.columns(1), 1, text.length() + 2, text + "  X X");
@@ -303,11 +304,11 @@ final class EdgeGrammarTest {
 
     /** "and nothing behind." */
     private static void nothingBehind() {
-        for (String text : new String[] {"SELECT 1", "SELECT 1 FROM t0 f", "SELECT 1 WHERE 1=1", "SELECT 1 FROM t0 f ORDER"
-                + " BY f.a", "SELECT COUNT(*)", "WITH p(x) AS (SELECT 1) SELECT 1"}) {
+        for (String text : new String[] {"SELECT 1", "SELECT 1 FROM t0 f", "SELECT 1 WHERE 1=1", "SELECT 1 FROM t0 f"
+                + " ORDER BY f.a", "SELECT COUNT(*)", "WITH p(x) AS (SELECT 1) SELECT 1"}) {
             fine(text.startsWith("WITH") ? 1 : 0, text);
-            for (String behind : new String[] {")", "(", "1", "x", "SELECT", "SELECT 1", "UNION SELECT 1", "*", ".", "NULL",
-                "WITH", "AS", "="}) {
+            for (String behind : new String[] {")", "(", "1", "x", "SELECT", "SELECT 1", "UNION SELECT 1", "*", ".",
+                "NULL", "WITH", "AS", "="}) {
                 fault(text + " ^" + behind);
             }
         }

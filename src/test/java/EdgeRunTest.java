@@ -1,4 +1,4 @@
-/** Promise 9 and what Terms say of RUNNING and ERRORS: rounds and rows that are allowed, and which error is the first. */
+/** Promise 9 and what Terms say of RUNNING and ERRORS: rounds and rows that are allowed, which error is the first. */
 final class EdgeRunTest {
     private static final int MOST = Integer.MAX_VALUE;
     private static final String OUT = "ArithmeticException";
@@ -86,8 +86,8 @@ final class EdgeRunTest {
         FixpointEngine none = new FixpointEngine();
         FixpointEngine e = new FixpointEngine();
         Kit.dueFine(e, 0, "SELECT 1");
-        int[][] wrong = {{0, 1}, {31, 1}, {-1, 1}, {MOST, 1}, {Integer.MIN_VALUE, 1}, {0, 48}, {31, 48}, {1, 0}, {1, 49},
-            {1, -1}, {1, MOST}, {1, Integer.MIN_VALUE}, {30, 0}, {30, 49}, {0, 0}, {31, 49}, {48, 30}};
+        int[][] wrong = {{0, 1}, {31, 1}, {-1, 1}, {MOST, 1}, {Integer.MIN_VALUE, 1}, {0, 48}, {31, 48}, {1, 0},
+                {1, 49}, {1, -1}, {1, MOST}, {1, Integer.MIN_VALUE}, {30, 0}, {30, 49}, {0, 0}, {31, 49}, {48, 30}};
         for (int[] two : wrong) {
             String what = "run(" + two[0] + ", " + two[1] + ")";
             Kit.dueThrown(what, () -> e.run(two[0], two[1]), IllegalArgumentException.class);
@@ -208,8 +208,8 @@ final class EdgeRunTest {
         Kit.due("thirty rounds", Kit.rounds(f, 0), "30:" + " 1".repeat(29) + " 0");
         Kit.due("six rounds", Kit.rounds(f, 1), "6: 1 1 1 1 1 0");
         FixpointEngine g = new FixpointEngine();
-        Kit.dueRun(g, "WITH RECURSIVE b(x) AS (SELECT 1),c(x) AS (SELECT 1),d(x) AS (SELECT 1)," + COUNT.replace("#", "29")
-                + " SELECT 1", 30, 33, "1");
+        Kit.dueRun(g, "WITH RECURSIVE b(x) AS (SELECT 1),c(x) AS (SELECT 1),d(x) AS (SELECT 1),"
+                + COUNT.replace("#", "29") + " SELECT 1", 30, 33, "1");
         Kit.due("thirty rounds of the fourth", Kit.rounds(g, 3), "30:" + " 1".repeat(29) + " 0");
     }
 
@@ -227,12 +227,12 @@ final class EdgeRunTest {
     private static void roundWithoutRows() {
         for (String union : new String[] {"UNION", "UNION ALL"}) {
             FixpointEngine e = new FixpointEngine();
-            Kit.dueRun(e, "WITH RECURSIVE p(x) AS (SELECT 1 WHERE 1=2 " + union + " SELECT r.x+1 FROM p r) SELECT 4", 1, 1,
-                    "4");
+            Kit.dueRun(e, "WITH RECURSIVE p(x) AS (SELECT 1 WHERE 1=2 " + union + " SELECT r.x+1 FROM p r) SELECT 4",
+                    1, 1, "4");
             Kit.due(union + ": one round", Kit.rounds(e, 0), "1: 0");
             FixpointEngine f = new FixpointEngine();
-            Kit.dueRun(f, "WITH RECURSIVE p(x) AS (SELECT 1 " + union + " SELECT r.x+1 FROM p r WHERE r.x>1) SELECT 4", 2,
-                    2, "4");
+            Kit.dueRun(f, "WITH RECURSIVE p(x) AS (SELECT 1 " + union + " SELECT r.x+1 FROM p r WHERE r.x>1) SELECT 4",
+                    2, 2, "4");
             Kit.due(union + ": two rounds", Kit.rounds(f, 0), "2: 1 0");
             Kit.due(union + ": one is too few", Kit.run(f, 1, 2), MORE);
         }
@@ -260,7 +260,8 @@ final class EdgeRunTest {
         Kit.dueRun(e, part + "SELECT COUNT(*) FROM p f", 30, 48, MORE);
         FixpointEngine seven = Kit.engine(steps(7, 0));
         Kit.dueRun(seven, "WITH p(x) AS (SELECT f.a FROM t0 f,t0 g) SELECT 1 WHERE 1=2", 30, 48, MORE);
-        Kit.dueRun(seven, "WITH p(x) AS (SELECT f.a FROM t0 f,t0 g UNION ALL SELECT 1) SELECT 1 WHERE 1=2", 30, 48, MORE);
+        Kit.dueRun(seven, "WITH p(x) AS (SELECT f.a FROM t0 f,t0 g UNION ALL SELECT 1) SELECT 1 WHERE 1=2", 30, 48,
+                MORE);
     }
 
     private static void rowsTogether() {
@@ -289,7 +290,8 @@ final class EdgeRunTest {
         Kit.dueRun(e, part + " UNION SELECT 48" + end, 1, 48, MORE);
         // A recursive part that is full goes on to a round that brings nothing.
         FixpointEngine f = Kit.engine(steps(16, 1), steps(3, 16));
-        Kit.dueRun(f, "WITH RECURSIVE p(x) AS (" + again + " UNION SELECT r.x-1 FROM p r WHERE r.x>0) SELECT 1 WHERE 1=2", 2,
+        Kit.dueRun(f, "WITH RECURSIVE p(x) AS (" + again + " UNION SELECT r.x-1 FROM p r WHERE r.x>0) SELECT 1"
+                + " WHERE 1=2", 2,
                 48, "");
         Kit.due("two rounds", Kit.rounds(f, 0), "2: 48 0");
     }
@@ -298,8 +300,8 @@ final class EdgeRunTest {
     private static void rowsOfRounds() {
         FixpointEngine e = new FixpointEngine();
         dueRows(e, "WITH RECURSIVE " + COUNT.replace("#", "20") + " SELECT f.x FROM p f WHERE f.x<4", 23, "1; 2; 3");
-        String twice = "WITH RECURSIVE p(x) AS (SELECT 1 UNION ALL SELECT r.x+1 FROM p r WHERE r.x<4 UNION ALL SELECT r.x+1"
-                + " FROM p r WHERE r.x<4) SELECT COUNT(*) FROM p f";
+        String twice = "WITH RECURSIVE p(x) AS (SELECT 1 UNION ALL SELECT r.x+1 FROM p r WHERE r.x<4 UNION ALL"
+                + " SELECT r.x+1 FROM p r WHERE r.x<4) SELECT COUNT(*) FROM p f";
         dueRows(new FixpointEngine(), twice, 16, "15");
         // Rows with MARK 1 are rows.
         dueRows(new FixpointEngine(), "WITH RECURSIVE p(x) AS (SELECT 1 UNION SELECT r.x FROM p r) CYCLE x SET m SELECT"
@@ -315,7 +317,8 @@ final class EdgeRunTest {
             Kit.dueRun(e, "SELECT COUNT(*),f.a FROM t0 f WHERE f.a<1", 1, 1, "1 0");
             dueRows(e, "SELECT f.a-f.a,f.a,COUNT(*) FROM t0 f WHERE f.a<" + count, count, groups(count));
         }
-        dueRows(Kit.engine(steps(16, 1), steps(3, 16)), "SELECT g.a-g.a,f.a+g.a,COUNT(*) FROM t1 g,t0 f", 48, groups(48));
+        dueRows(Kit.engine(steps(16, 1), steps(3, 16)), "SELECT g.a-g.a,f.a+g.a,COUNT(*) FROM t1 g,t0 f", 48,
+                groups(48));
         Kit.dueRun(Kit.engine(steps(7, 7), steps(7, 1)), "SELECT f.a+g.a,COUNT(*) FROM t0 f,t1 g", 30, 48, MORE);
     }
 
@@ -386,7 +389,8 @@ final class EdgeRunTest {
         Kit.dueRun(e, "WITH p(x) AS (" + rows + ") " + range, 1, 3, OUT);
         Kit.dueRun(e, "WITH p(x) AS (" + range + ") " + rows, 1, 2, OUT);
         // The parts of one component in a round, as they stand in the text.
-        String pair = "WITH RECURSIVE p(x) AS (# UNION SELECT r.x FROM q r),q(x) AS (% UNION SELECT r.x FROM p r) SELECT 1";
+        String pair = "WITH RECURSIVE p(x) AS (# UNION SELECT r.x FROM q r),q(x) AS (% UNION SELECT r.x FROM p r)"
+                + " SELECT 1";
         Kit.dueRun(e, pair.replace("#", rows).replace("%", range), 9, 2, MORE);
         Kit.dueRun(e, pair.replace("#", rows).replace("%", range), 9, 3, OUT);
         Kit.dueRun(e, pair.replace("#", range).replace("%", rows), 9, 2, OUT);
@@ -423,8 +427,8 @@ final class EdgeRunTest {
 
     /** "with UNION only if it is not there yet (all cells equal, NULL to NULL ..)". */
     private static void notThereYet() {
-        Integer[][] rows = {{1, 2, 3}, {1, 2, 3}, {1, 2, 4}, {1, 5, 3}, {6, 2, 3}, {null, 2, 3}, {null, 2, 3}, {1, null, 3},
-            {1, 2, null}, {null, null, null}, {null, null, null}, {0, 0, 0}};
+        Integer[][] rows = {{1, 2, 3}, {1, 2, 3}, {1, 2, 4}, {1, 5, 3}, {6, 2, 3}, {null, 2, 3}, {null, 2, 3},
+                {1, null, 3}, {1, 2, null}, {null, null, null}, {null, null, null}, {0, 0, 0}};
         FixpointEngine e = Kit.engine(rows);
         String text = "WITH p(x,y,z) AS (SELECT f.a,f.b,f.c FROM t0 f UNION SELECT 1,2,3) SELECT f.x,f.y,f.z FROM p f";
         String due = "NULL NULL NULL; NULL 2 3; 0 0 0; 1 NULL 3; 1 2 NULL; 1 2 3; 1 2 4; 1 5 3; 6 2 3";
@@ -440,29 +444,30 @@ final class EdgeRunTest {
         Kit.dueAnswer(e, "WITH p(x) AS (SELECT f.a FROM t0 f UNION SELECT 4) SELECT f.x FROM p f", "NULL; 4");
         Kit.dueAnswer(e, "WITH p(x) AS (SELECT f.a FROM t0 f UNION ALL SELECT 4) SELECT f.x FROM p f",
                 "NULL; NULL; 4; 4; 4");
-        Kit.dueAnswer(e, "WITH p(x) AS (SELECT 4 UNION ALL SELECT 4 UNION ALL SELECT 4 UNION ALL SELECT 4) SELECT COUNT(*)"
-                + " FROM p f", "4");
+        Kit.dueAnswer(e, "WITH p(x) AS (SELECT 4 UNION ALL SELECT 4 UNION ALL SELECT 4 UNION ALL SELECT 4) SELECT"
+                + " COUNT(*) FROM p f", "4");
     }
 
     /** "a part of the component itself having what it had when the round began". */
     private static void whatItHadWhenTheRoundBegan() {
         FixpointEngine e = new FixpointEngine();
-        Kit.dueAnswer(e, "WITH RECURSIVE p(x) AS (SELECT 1 UNION SELECT r.x+1 FROM p r WHERE r.x<4 UNION SELECT r.x+1 FROM"
-                + " p r WHERE r.x<4) SELECT f.x FROM p f", "1; 2; 3; 4");
+        Kit.dueAnswer(e, "WITH RECURSIVE p(x) AS (SELECT 1 UNION SELECT r.x+1 FROM p r WHERE r.x<4 UNION SELECT r.x+1"
+                + " FROM p r WHERE r.x<4) SELECT f.x FROM p f", "1; 2; 3; 4");
         Kit.due("one step a round", Kit.rounds(e, 0), "5: 1 1 1 1 0");
-        Kit.dueAnswer(e, "WITH RECURSIVE p(x) AS (SELECT 1 UNION SELECT r.x+1 FROM q r WHERE r.x<4),q(x) AS (SELECT 1 UNION"
-                + " SELECT r.x+1 FROM p r WHERE r.x<4) SELECT COUNT(*) FROM p f,q g", "16");
+        Kit.dueAnswer(e, "WITH RECURSIVE p(x) AS (SELECT 1 UNION SELECT r.x+1 FROM q r WHERE r.x<4),q(x) AS (SELECT 1"
+                + " UNION SELECT r.x+1 FROM p r WHERE r.x<4) SELECT COUNT(*) FROM p f,q g", "16");
         Kit.due("both parts in a round", Kit.rounds(e, 0), "5: 2 2 2 2 0");
         // A part of another component has all that it has in the end.
-        Kit.dueAnswer(e, "WITH RECURSIVE " + COUNT.replace("#", "4") + ",q(x) AS (SELECT f.x FROM p f UNION SELECT r.x+4 FROM"
-                + " q r WHERE r.x<5) SELECT COUNT(*) FROM q f", "8");
+        Kit.dueAnswer(e, "WITH RECURSIVE " + COUNT.replace("#", "4") + ",q(x) AS (SELECT f.x FROM p f UNION"
+                + " SELECT r.x+4 FROM q r WHERE r.x<5) SELECT COUNT(*) FROM q f", "8");
         Kit.due("in its first round", Kit.rounds(e, 1), "3: 4 4 0");
     }
 
     /** "With UNION ALL: in round 1 selections that name the part give nothing". */
     private static void unionAllInRoundOne() {
         FixpointEngine e = new FixpointEngine();
-        Kit.dueAnswer(e, "WITH RECURSIVE p(x) AS (SELECT 1 UNION ALL SELECT r.x+10 FROM p r WHERE r.x<9 UNION ALL SELECT 2"
+        Kit.dueAnswer(e, "WITH RECURSIVE p(x) AS (SELECT 1 UNION ALL SELECT r.x+10 FROM p r WHERE r.x<9 UNION ALL"
+                + " SELECT 2"
                 + " UNION ALL SELECT r.x+20 FROM p r WHERE r.x<9) SELECT f.x FROM p f", "1; 2; 11; 12; 21; 22");
         Kit.due("two, then four", Kit.rounds(e, 0), "3: 2 4 0");
     }
@@ -470,8 +475,8 @@ final class EdgeRunTest {
     /** "in later rounds only these are worked out, and the part then has .. just the rows .. of the round before". */
     private static void unionAllInLaterRounds() {
         FixpointEngine e = new FixpointEngine();
-        Kit.dueAnswer(e, "WITH RECURSIVE p(x) AS (SELECT 1 UNION ALL SELECT 1 UNION ALL SELECT r.x+1 FROM p r WHERE r.x<3)"
-                + " SELECT f.x FROM p f", "1; 1; 2; 2; 3; 3");
+        Kit.dueAnswer(e, "WITH RECURSIVE p(x) AS (SELECT 1 UNION ALL SELECT 1 UNION ALL SELECT r.x+1 FROM p r"
+                + " WHERE r.x<3) SELECT f.x FROM p f", "1; 1; 2; 2; 3; 3");
         Kit.due("two each", Kit.rounds(e, 0), "4: 2 2 2 0");
         // The same rows again and again would come without end.
         Kit.dueRun(e, "WITH RECURSIVE p(x) AS (SELECT 1 UNION ALL SELECT r.x FROM p r) SELECT 1", 29, 48, MORE);
@@ -481,8 +486,8 @@ final class EdgeRunTest {
     /** What earlier queries and runs left in the object touches no later one. */
     private static void runsLeaveNothing() {
         FixpointEngine e = Kit.engine(new Integer[][] {{1, 2, 3}, {1, 5, 6}, {2, 8, 7}});
-        String wide = "WITH RECURSIVE p(x,y,z) AS (SELECT f.a,f.b,f.c FROM t0 f UNION SELECT r.x,r.y,r.z FROM p r) CYCLE y SET"
-                + " m SELECT f.x,f.y,f.z,f.m FROM p f";
+        String wide = "WITH RECURSIVE p(x,y,z) AS (SELECT f.a,f.b,f.c FROM t0 f UNION SELECT r.x,r.y,r.z FROM p r)"
+                + " CYCLE y SET m SELECT f.x,f.y,f.z,f.m FROM p f";
         String narrow = "WITH p(x) AS (SELECT f.a FROM t0 f UNION SELECT 2 UNION SELECT 3) SELECT f.x FROM p f";
         for (int i = 0; i < 3; i++) {
             Kit.dueAnswer(e, wide, "1 2 3 0; 1 2 3 1; 1 5 6 0; 1 5 6 1; 2 8 7 0; 2 8 7 1");

@@ -1,13 +1,13 @@
 /** Promise 5 and what Terms say of THE TEXT and its TOKENS: a test for each bound, on both sides of it. */
 final class EdgeTextTest {
     /** Every keyword, name and sign stands here; each name has six characters. */
-    private static final String ALL_WORDS = "WITH RECURSIVE part11(colum1,colum2)AS(SELECT alias1.a,COUNT(*)FROM t0 alias1"
-            + " WHERE NOT EXISTS(SELECT 1 FROM t0 alias2 WHERE alias2.a<1)AND alias1.a IS NULL UNION SELECT"
+    private static final String ALL_WORDS = "WITH RECURSIVE part11(colum1,colum2)AS(SELECT alias1.a,COUNT(*)FROM t0"
+            + " alias1 WHERE NOT EXISTS(SELECT 1 FROM t0 alias2 WHERE alias2.a<1)AND alias1.a IS NULL UNION SELECT"
             + " MIN(alias1.a),MAX(1+2-3)FROM t0 alias1 UNION SELECT SUM(alias1.a),1 FROM t0 alias1 WHERE 1=1),"
             + "part22(colum1)AS(SELECT 1 UNION ALL SELECT 2)SELECT 1 FROM t0 alias1 ORDER BY alias1.a";
     private static final String ALL_TRAILS = "WITH RECURSIVE part11(colum1,colum2)AS(SELECT 1,2 UNION ALL SELECT"
-            + " alias1.colum2,alias1.mark11 FROM part11 alias1 WHERE alias1.colum1<>1)SEARCH %s FIRST BY colum1 SET trail1"
-            + " CYCLE colum2 SET mark11 SELECT alias1.colum1 FROM part11 alias1 ORDER BY alias1.trail1";
+            + " alias1.colum2,alias1.mark11 FROM part11 alias1 WHERE alias1.colum1<>1)SEARCH %s FIRST BY colum1"
+            + " SET trail1 CYCLE colum2 SET mark11 SELECT alias1.colum1 FROM part11 alias1 ORDER BY alias1.trail1";
 
     private EdgeTextTest() {
     }
@@ -176,7 +176,8 @@ final class EdgeTextTest {
             }
         }
         Kit.due("every keyword was met", met.toString(), "[ALL, AND, AS, BREADTH, BY, COUNT, CYCLE, DEPTH, EXISTS,"
-                + " FIRST, FROM, IS, MAX, MIN, NOT, NULL, ORDER, RECURSIVE, SEARCH, SELECT, SET, SUM, UNION, WHERE, WITH]");
+                + " FIRST, FROM, IS, MAX, MIN, NOT, NULL, ORDER, RECURSIVE, SEARCH, SELECT, SET, SUM, UNION, WHERE,"
+                + " WITH]");
         Kit.dueFine(Kit.columns(1), 2, ALL_WORDS);
         Kit.dueFine(Kit.columns(1), 1, withTrails("DEPTH"));
         Kit.dueFine(Kit.columns(1), 1, withTrails("BREADTH"));

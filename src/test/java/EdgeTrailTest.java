@@ -2,7 +2,8 @@
 final class EdgeTrailTest {
     private static final int MOST = Integer.MAX_VALUE;
     private static final int LEAST = Integer.MIN_VALUE;
-    private static final String WALK = "WITH RECURSIVE p(x) AS (SELECT 1 UNION SELECT e.b FROM p r,t0 e WHERE e.a=r.x) ";
+    private static final String WALK = "WITH RECURSIVE p(x) AS (SELECT 1 UNION SELECT e.b FROM p r,t0 e"
+            + " WHERE e.a=r.x) ";
     private static final String DEPTH = "SEARCH DEPTH FIRST BY x SET k ";
     private static final String BREADTH = "SEARCH BREADTH FIRST BY x SET k ";
     private static final String CYCLE = "CYCLE x SET m ";
@@ -55,8 +56,8 @@ final class EdgeTrailTest {
 
     /** "a row of a selection that does not name the part itself has the trail (v)", in the text wherever it stands. */
     private static void trailOfOne() {
-        String text = "WITH RECURSIVE p(x) AS (SELECT 5 UNION SELECT r.x+1 FROM p r WHERE r.x=3 UNION SELECT 3 UNION SELECT"
-                + " e.b FROM t0 e) " + DEPTH + "SELECT 9-f.x FROM p f ORDER BY f.k";
+        String text = "WITH RECURSIVE p(x) AS (SELECT 5 UNION SELECT r.x+1 FROM p r WHERE r.x=3 UNION SELECT 3 UNION"
+                + " SELECT e.b FROM t0 e) " + DEPTH + "SELECT 9-f.x FROM p f ORDER BY f.k";
         // The trails are (5), (3), (4) and behind (3) (3, 4).
         due(new Integer[][] {{0, 4}}, text, "6; 5; 5; 4", "3: 3 1 0");
         due(new Integer[][] {{0, 4}}, text.replace("DEPTH", "BREADTH"), "6; 5; 4; 5", "3: 3 1 0");
@@ -76,8 +77,8 @@ final class EdgeTrailTest {
 
     /** "with DEPTH by their values from the first on". */
     private static void depthFromTheFirstOn() {
-        String two = "WITH RECURSIVE p(x) AS (SELECT e.a FROM t0 e WHERE e.b=0 UNION SELECT e.b FROM p r,t0 e WHERE e.a=r.x AND"
-                + " e.b>0) " + DEPTH;
+        String two = "WITH RECURSIVE p(x) AS (SELECT e.a FROM t0 e WHERE e.b=0 UNION SELECT e.b FROM p r,t0 e"
+                + " WHERE e.a=r.x AND e.b>0) " + DEPTH;
         // Only the first values differ, then only the last ones; what sorts the items would sort otherwise.
         due(new Integer[][] {{5, 0}, {3, 0}}, two + "SELECT 9-f.x FROM p f ORDER BY f.k", "6; 4", "2: 2 0");
         due(new Integer[][] {{5, 0}, {3, 0}, {5, 1}, {3, 8}}, two + BY_TRAIL, "3; 8; 5; 1", "3: 2 2 0");
@@ -105,8 +106,8 @@ final class EdgeTrailTest {
         due(edges, WALK + DEPTH + BY_TRAIL, four, "3: 1 4 0");
         due(edges, WALK + BREADTH + BY_TRAIL, four, "3: 1 4 0");
         // NULL inside a trail, with an int behind it.
-        String text = "WITH RECURSIVE p(x,y) AS (SELECT 0,0 UNION SELECT e.a,1 FROM p r,t0 e WHERE r.y=0 UNION SELECT r.y+1-r.y"
-                + ",2 FROM p r WHERE r.y=1) " + DEPTH + "SELECT f.y,f.x FROM p f ORDER BY f.k";
+        String text = "WITH RECURSIVE p(x,y) AS (SELECT 0,0 UNION SELECT e.a,1 FROM p r,t0 e WHERE r.y=0 UNION"
+                + " SELECT r.y+1-r.y,2 FROM p r WHERE r.y=1) " + DEPTH + "SELECT f.y,f.x FROM p f ORDER BY f.k";
         due(new Integer[][] {{LEAST}, {null}}, text, "0 0; 1 NULL; 2 1; 1 -2147483648; 2 1", "4: 1 2 2 0");
     }
 
@@ -136,19 +137,23 @@ final class EdgeTrailTest {
         due(diamond, all(WALK) + BREADTH + BY_TRAIL, "1; 2; 3; 4; 4", "4: 1 2 2 0");
         // What came before in the trail does not sort: the items do.
         String text = all(WALK).replace("p(x)", "p(x,y)").replace("SELECT 1", "SELECT 1,0").replace("e.b", "e.b,0-r.x");
-        due(diamond, text + BREADTH + "SELECT f.x,f.y FROM p f ORDER BY f.k", "1 0; 2 -1; 3 -1; 4 -3; 4 -2", "4: 1 2 2 0");
-        due(diamond, text + DEPTH + "SELECT f.x,f.y FROM p f ORDER BY f.k", "1 0; 2 -1; 4 -2; 3 -1; 4 -3", "4: 1 2 2 0");
+        due(diamond, text + BREADTH + "SELECT f.x,f.y FROM p f ORDER BY f.k", "1 0; 2 -1; 3 -1; 4 -3; 4 -2",
+                "4: 1 2 2 0");
+        due(diamond, text + DEPTH + "SELECT f.x,f.y FROM p f ORDER BY f.k", "1 0; 2 -1; 4 -2; 3 -1; 4 -3",
+                "4: 1 2 2 0");
     }
 
     /** "v its cell of the column behind BY": any of three. */
     private static void columnBehindBy() {
-        String part = "WITH RECURSIVE p(x,y,z) AS (SELECT 0,0,0 UNION SELECT e.a,e.b,e.c FROM p r,t0 e WHERE r.x=0) SEARCH ";
+        String part = "WITH RECURSIVE p(x,y,z) AS (SELECT 0,0,0 UNION SELECT e.a,e.b,e.c FROM p r,t0 e WHERE r.x=0)"
+                + " SEARCH ";
         Integer[][] rows = {{1, 3, 2}, {2, 1, 3}, {3, 2, 1}};
         String[] names = {"x", "y", "z"};
         String[] dues = {"0; 1; 2; 3", "0; 2; 3; 1", "0; 3; 1; 2"};
         for (int i = 0; i < 3; i++) {
             for (String how : new String[] {"DEPTH", "BREADTH"}) {
-                due(rows, part + how + " FIRST BY " + names[i] + " SET k SELECT f.x FROM p f ORDER BY f.k", dues[i], "3: 1 3 0");
+                due(rows, part + how + " FIRST BY " + names[i] + " SET k SELECT f.x FROM p f ORDER BY f.k", dues[i],
+                        "3: 1 3 0");
             }
         }
     }
@@ -177,9 +182,10 @@ final class EdgeTrailTest {
 
     /** "MARK is 1 if v .. stands in the trail that it is put behind, else 0": a first row is put behind none. */
     private static void markOfTheFirst() {
-        due(NONE, "WITH RECURSIVE p(x) AS (SELECT 1 UNION ALL SELECT 1 UNION ALL SELECT r.x FROM p r WHERE r.x=2) " + CYCLE
-                + MARKED, "1 0; 1 0", "2: 2 0");
-        due(NONE, "WITH RECURSIVE p(x) AS (SELECT 1 UNION ALL SELECT r.x FROM p r) " + CYCLE + MARKED, "1 0; 1 1", "3: 1 1 0");
+        due(NONE, "WITH RECURSIVE p(x) AS (SELECT 1 UNION ALL SELECT 1 UNION ALL SELECT r.x FROM p r WHERE r.x=2) "
+                + CYCLE + MARKED, "1 0; 1 0", "2: 2 0");
+        due(NONE, "WITH RECURSIVE p(x) AS (SELECT 1 UNION ALL SELECT r.x FROM p r) " + CYCLE + MARKED, "1 0; 1 1",
+                "3: 1 1 0");
         due(NONE, "WITH RECURSIVE p(x) AS (SELECT 1 UNION SELECT r.x+1 FROM p r WHERE r.x<3) " + CYCLE + MARKED,
                 "1 0; 2 0; 3 0", "4: 1 1 1 0");
     }
@@ -188,7 +194,8 @@ final class EdgeTrailTest {
     private static void markStandsAnywhere() {
         for (int back = 1; back <= 4; back++) {
             Integer[][] line = {{1, 2}, {2, 3}, {3, 4}, {4, back}};
-            due(line, WALK + CYCLE + MARKED + " ORDER BY f.m,f.x", "1 0; 2 0; 3 0; 4 0; " + back + " 1", "6: 1 1 1 1 1 0");
+            due(line, WALK + CYCLE + MARKED + " ORDER BY f.m,f.x", "1 0; 2 0; 3 0; 4 0; " + back + " 1",
+                    "6: 1 1 1 1 1 0");
         }
         due(new Integer[][] {{1, 2}, {2, 3}, {3, 4}, {4, 5}}, WALK + CYCLE + MARKED, "1 0; 2 0; 3 0; 4 0; 5 0",
                 "6: 1 1 1 1 1 0");
@@ -210,7 +217,8 @@ final class EdgeTrailTest {
         due(NONE, text.replace("NULL", "0"), "0 0 0; 0 1 1", "3: 1 1 0");
         // An int again, with NULL between.
         Integer[][] edges = {{1, null}};
-        due(edges, "WITH RECURSIVE p(x,y) AS (SELECT 1,0 UNION SELECT e.b,1 FROM p r,t0 e WHERE r.y=0 UNION SELECT 1,2 FROM p r"
+        due(edges, "WITH RECURSIVE p(x,y) AS (SELECT 1,0 UNION SELECT e.b,1 FROM p r,t0 e WHERE r.y=0 UNION"
+                + " SELECT 1,2 FROM p r"
                 + " WHERE r.y=1) " + CYCLE + "SELECT f.y,f.x,f.m FROM p f", "0 1 0; 1 NULL 0; 2 1 1", "4: 1 1 1 0");
     }
 
@@ -234,7 +242,8 @@ final class EdgeTrailTest {
         due(ring, part + " SELECT f.x,f.m FROM p f ORDER BY f.m", "1 0; 2 0; 1 1", "");
         due(ring, part + " SELECT 7 WHERE NOT EXISTS(SELECT 1 FROM p f WHERE f.m=1)", "", "");
         due(ring, part + " SELECT 7 WHERE NOT EXISTS(SELECT 1 FROM p f WHERE f.m=2)", "7", "");
-        due(ring, part + ",q(x) AS (SELECT f.x FROM p f UNION ALL SELECT r.x+8 FROM q r WHERE r.x<3) SELECT f.x FROM q f",
+        due(ring, part + ",q(x) AS (SELECT f.x FROM p f UNION ALL SELECT r.x+8 FROM q r WHERE r.x<3) SELECT f.x"
+                + " FROM q f",
                 "1; 1; 2; 9; 9; 10", "");
         FixpointEngine e = Kit.engine(ring);
         Kit.dueAnswer(e, part + " SELECT 1", "1");
@@ -275,8 +284,8 @@ final class EdgeTrailTest {
 
     /** The rows are equal but for the beginnings of their trails; the later row's comes of the first row. */
     private static void rootsThatDiffer() {
-        String text = "WITH RECURSIVE p(x) AS (SELECT 1 UNION SELECT 2 UNION SELECT 7 FROM p r WHERE r.x=2 UNION SELECT 7 FROM"
-                + " p r WHERE r.x=1) ";
+        String text = "WITH RECURSIVE p(x) AS (SELECT 1 UNION SELECT 2 UNION SELECT 7 FROM p r WHERE r.x=2 UNION"
+                + " SELECT 7 FROM p r WHERE r.x=1) ";
         due(NONE, text + DEPTH + BY_TRAIL, "1; 7; 2; 7", "3: 2 2 0");
         due(NONE, text + CYCLE + MARKED, "1 0; 2 0; 7 0; 7 0", "3: 2 2 0");
         due(NONE, text + BREADTH + BY_TRAIL, "1; 2; 7", "3: 2 1 0");
@@ -308,8 +317,8 @@ final class EdgeTrailTest {
     private static void longestTrail() {
         String text = "WITH RECURSIVE p(x) AS (SELECT 1 UNION SELECT r.x+1 FROM p r WHERE r.x<29) ";
         for (String tail : new String[] {DEPTH, BREADTH, DEPTH + CYCLE}) {
-            due(NONE, text + tail + "SELECT 30-f.x FROM p f WHERE f.x>26 ORDER BY f.k", "3; 2; 1", "30:" + " 1".repeat(29)
-                    + " 0");
+            due(NONE, text + tail + "SELECT 30-f.x FROM p f WHERE f.x>26 ORDER BY f.k", "3; 2; 1",
+                    "30:" + " 1".repeat(29) + " 0");
         }
         due(NONE, text.replace("<29", "<30") + DEPTH + "SELECT 1", "UnsupportedOperationException", "");
         // The last value of it stands in the first place of the trail.
@@ -322,8 +331,8 @@ final class EdgeTrailTest {
         Integer[][] tree = {{1, 3}, {1, 2}, {2, 4}};
         due(tree, WALK + DEPTH + "SELECT f.x,g.x FROM p f,p g WHERE f.x<g.x ORDER BY g.k,f.k",
                 "1 2; 1 4; 2 4; 3 4; 1 3; 2 3", "");
-        String both = WALK.trim() + DEPTH.trim() + ",q(y) AS (SELECT 5 UNION SELECT r.y-1 FROM q r WHERE r.y>3) SEARCH BREADTH"
-                + " FIRST BY y SET l SELECT f.x,g.y FROM p f,q g WHERE f.x+g.y=6 ORDER BY ";
+        String both = WALK.trim() + DEPTH.trim() + ",q(y) AS (SELECT 5 UNION SELECT r.y-1 FROM q r WHERE r.y>3)"
+                + " SEARCH BREADTH FIRST BY y SET l SELECT f.x,g.y FROM p f,q g WHERE f.x+g.y=6 ORDER BY ";
         due(tree, both + "f.k", "1 5; 2 4; 3 3", "");
         due(tree, both + "g.l", "1 5; 2 4; 3 3", "");
         due(tree, both.replace("f.x+g.y=6", "f.x+g.y=7") + "g.l,f.k", "2 5; 3 4; 4 3", "");

@@ -196,7 +196,8 @@ final class EdgeValueTest {
     private static void rowForEachCombination() {
         due(column(4, 4, 4), "SELECT f.a FROM t0 f", "4; 4; 4");
         due(column(4, null, null), "SELECT 1 FROM t0 f", "1; 1; 1");
-        due(column(4, null), "SELECT f.a,g.a,f.a,9 FROM t0 f,t0 g", "NULL NULL NULL 9; NULL 4 NULL 9; 4 NULL 4 9; 4 4 4 9");
+        due(column(4, null), "SELECT f.a,g.a,f.a,9 FROM t0 f,t0 g",
+                "NULL NULL NULL 9; NULL 4 NULL 9; 4 NULL 4 9; 4 4 4 9");
     }
 
     /** "combinations with equal other items (NULL is equal to NULL) are a GROUP, and each group gives a row". */
