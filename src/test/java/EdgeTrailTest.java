@@ -38,6 +38,7 @@ final class EdgeTrailTest {
         lengthsThatDiffer();
         bothTrailsAtOnce();
         longestTrail();
+        fullOfTrails();
         trailsOfTwoSources();
         Kit.end();
     }
@@ -325,6 +326,25 @@ final class EdgeTrailTest {
         String back = text.replace("SELECT r.x+1 FROM p r WHERE r.x<29",
                 "SELECT r.x+1 FROM p r WHERE r.x<28 UNION SELECT 1 FROM p r WHERE r.x=28");
         due(NONE, back + CYCLE + "SELECT f.x FROM p f WHERE f.m=1", "1", "30:" + " 1".repeat(29) + " 0");
+    }
+
+    /** Forty-eight rows with trails; one that is there already can be looked for still, one more can't come. */
+    private static void fullOfTrails() {
+        String text = "WITH RECURSIVE p(x) AS (SELECT f.a+g.a FROM t0 f,t1 g UNION SELECT # UNION SELECT r.x FROM p r WHERE"
+                + " r.x>99) ";
+        for (String tail : new String[] {DEPTH, BREADTH, CYCLE, DEPTH + CYCLE}) {
+            FixpointEngine e = Kit.columns(1, 1);
+            for (int i = 0; i < 16; i++) {
+                e.row(0, i, 0, 0, 0);
+            }
+            for (int i = 0; i < 3; i++) {
+                e.row(1, i * 16, 0, 0, 0);
+            }
+            Kit.dueRun(e, text.replace("#", "47") + tail + "SELECT 1 WHERE 1=2", 2, 48, "");
+            Kit.due("all rows there can be", Kit.rounds(e, 0), "2: 48 0");
+            Kit.dueRun(e, text.replace("#", "48") + tail + "SELECT 1 WHERE 1=2", 2, 48, "UnsupportedOperationException");
+            Kit.dueRun(e, text.replace("#", "47") + tail + "SELECT 1", 2, 48, "UnsupportedOperationException");
+        }
     }
 
     private static void trailsOfTwoSources() {
